@@ -282,6 +282,9 @@ public final class GliderTest {
         w.dive(1, 0, 0, 0);
         Due.is("in a corner", w.cell(0, 1, 0, 2), 49);
         Due.is("no wrap", w.cell(0, 7, 0, 2), 99);
+        w.sea(0, 0, 2, 99);
+        w.dive(1, 0, 1, 0);
+        Due.is("the corner beside it", w.cell(0, 0, 0, 2), 49);
         w.glider(0, 9, 7, 100);
         w.dive(2, 0, 0, 0);
         Due.is("in a corner", w.cell(8, 7, 0, 2), 49);

@@ -184,6 +184,10 @@ public final class MeasureTest {
         w.stream(4, 4, 0, 2, 0, true);
         Due.is("more goes out than comes in", w.whole(0), 78);
         w = new DeepWings();
+        w.stream(0, 0, 2, 1, 0, true);
+        w.stream(1, 0, 2, 1, 0, true);
+        Due.is("from the corner", w.whole(2), 78);
+        w = new DeepWings();
         w.stream(4, 4, 0, 1, -2, true);
         Due.is("out both ways", w.whole(0), 77);
         w.stream(3, 4, 0, 2, 0, true);

@@ -41,7 +41,7 @@ public final class OrderTest {
             {"p<1", 3}, {"p<00?u;", 3}, {"p<01?u;", 3}, {"p<1;", 3}, {"p<1u;", 3}, {"p<12", 4}, {"p<1x", 3},
             {"p<1234?u;", 5}, {"p<123", 5}, {"p<100?u;", -4}, {"p<1000?u;", 5}, {"p<1&", 4}, {"p<1&&", 4},
             {"p<1&?u;", 4}, {"p<1!x<1?u;", 3}, {"p<1?", 4}, {"p<1?;", 4}, {"p<1?x;", 4}, {"p<1?u", 5},
-            {"p<1?uu", 5}, {"p<1?u?", 5}, {"p<1?s", 5}, {"p<1?s4;", 5}, {"p<1?s;", 5}, {"p<1?s3", 6},
+            {"p<1?uu", 5}, {"p<1?u?", 5}, {"p<1?s", 5}, {"p<1?s4;", 5}, {"p<1?s;", 5}, {"p<1?s3", 6}, {"p<1?g;", 5}, {"p<1?g0;", 6}, {"p<1?g00;", 7},
             {"p<1?s33;", 6}, {"p<1?g", 5}, {"p<1?g9", 6}, {"p<1?g98", 6}, {"p<1?g97", 7}, {"p<1?g974", 7},
             {"p<1?g973", 8}, {"p<1?g9733;", 8}, {"p<1?g:00;", 5}, {"p<1?g/00;", 5}, {"p<1?u;;", 6}, {"p<1?u;p", 7},
             {"p<1?u; ", 6}, {"!", 1}, {"!!", 2}, {"!?", 1}, {"!p<1&!", 6}, {"p<:?u;", 2}, {"p</?u;", 2}};
@@ -116,14 +116,19 @@ public final class OrderTest {
         Due.is("order", w.order(0), 0);
         w.put(0, 1, '<');
         Due.is("another text, another order", w.order(0), 1);
-        Due.text(w, 0, "x");
-        Due.is("fault", w.fault(0), 1);
+        Due.text(w, 0, "p>9?u;p=3?u;x");
+        Due.is("fault", w.fault(0), 13);
+        Due.text(w, 0, "p=3?u;");
+        Due.is("nothing of a text with a fault stays", w.order(0), 2);
         w.letter(0, 0);
         w.times(2);
         Due.is("the first as it was read", w.rule(0), 0);
         w.letter(0, 1);
         w.times(2);
         Due.is("the second as it was read", w.rule(0), -4);
+        w.letter(0, 2);
+        w.times(2);
+        Due.is("the third as it was read", w.rule(0), -4);
     }
 
     private static void ruleRefusals() {
@@ -187,6 +192,7 @@ public final class OrderTest {
         holds("leak", w, "l=0", true);
         w.leak(0, true);
         Due.is("leak", w.rule(0), -4);
+        holds("leak", w, "l=1", true);
         holds("no reading", w, "s=0", true);
         w.salt(8, 2, 1, 77);
         w.dive(0, 1, 0, 0);
@@ -261,6 +267,8 @@ public final class OrderTest {
         Due.is("east first", goes(3, 2, 2, "g570"), 43);
         Due.is("east alone", goes(3, 2, 2, "g970"), 50);
         Due.is("north alone", goes(3, 2, 2, "g270"), 22);
+        Due.is("west, then north with what is left", goes(3, 5, 2, "g370"), 28);
+        Due.is("west, then south with what is left", goes(1, 5, 5, "g300"), 28);
         Due.is("south alone", goes(1, 2, 6, "g200"), 19);
         Due.is("west alone", goes(0, 5, 5, "g050"), 29);
         Due.is("there already", goes(0, 5, 5, "g553"), 45);
@@ -275,6 +283,9 @@ public final class OrderTest {
     }
 
     private static void actWithoutPower() {
+        DeepWings exact = Due.ordered(0, 5, 5, 8, "p>0?s2;");
+        Due.is("power just enough", exact.times(3), 1);
+        Due.is("power", exact.about(0, 3), 0);
         DeepWings w = Due.ordered(0, 5, 5, 9, "p>0?s2;p>0?s0;");
         Due.is("one dive", w.times(3), 1);
         Due.is("then it stays up, the second rule isn't tried", w.about(0, 3), 1);

@@ -13,6 +13,7 @@ public final class PlanTest {
         none();
         firstThree();
         powerAndSinks();
+        farthestHeadings();
         gainRoundsUp();
         Random random = new Random(20261118);
         for (int i = 0; i < 150; i++) {
@@ -143,6 +144,16 @@ public final class PlanTest {
         w.salt(5, 4, 0, 1000);
         Due.is("by the map, as deep as it sinks, nets left out", w.planned(3, 0), code(2, 0));
         Due.is("layer 0", w.planned(0, 0), code(3, 0));
+    }
+
+    private static void farthestHeadings() {
+        DeepWings w = new DeepWings();
+        w.sea(9, 7, 2, 0);
+        w.sea(88, 44, 2, 60);
+        w.glider(3, 4, 4, 99);
+        Due.is("the last of all headings", w.planned(0, 0), code(4, 0));
+        w.sea(0, 44, 2, 61);
+        Due.is("the first of all headings", w.planned(0, 0), code(-4, 0));
     }
 
     private static void gainRoundsUp() {

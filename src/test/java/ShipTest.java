@@ -153,6 +153,7 @@ public final class ShipTest {
             w.stream(i / 32, i / 4 % 8, i % 4, -1, 1, i % 2 == 0);
             w.stream(i / 32, i / 4 % 8, i % 4, 1, -1, i % 2 == 1);
             w.salt(i / 32, i / 4 % 8, i % 4, 9);
+            w.salt(i / 32, i / 4 % 8, i % 4, i % 3 == 0 ? 1000 : 1001);
         }
         w.glider(2, 0, 0, 9);
         w.dive(1, 0, 2, 2);
@@ -212,6 +213,38 @@ public final class ShipTest {
         Due.is("of its own kind", w.about(1, 0), 2);
         Due.is("never heard", w.about(1, 8), -4);
         Due.is("never fixed", w.known(1, 400), -4);
+        usedAgain();
+    }
+
+    /** What comes behind a RESTORE has nothing of what came behind THE IMAGE. */
+    private static void usedAgain() {
+        DeepWings w = new DeepWings();
+        w.glider(0, 1, 1, 50);
+        Due.order(w, "p>0?u;");
+        Due.order(w, "p<9?u;");
+        w.image();
+        w.glider(3, 2, 2, 300);
+        w.leak(1, true);
+        w.salt(2, 2, 0, 5);
+        w.dive(0, 0, 0, 0);
+        w.dive(1, 0, 0, 0);
+        w.letter(1, 1);
+        w.times(2);
+        w.salt(2, 2, 0, 1000);
+        w.dive(1, 0, 0, 0);
+        Due.is("lost", w.about(1, 4), 2);
+        w.restore();
+        Due.is("no reading then", w.about(0, 10), -4);
+        Due.is("a glider", w.glider(1, 3, 4, 44), 1);
+        int[] first = {1, 3, 4, 44, 0, 0, 0, -4, -4, 0, -4};
+        for (int what = 0; what < first.length; what++) {
+            Due.is("a new glider " + what, w.about(1, what), first[what]);
+        }
+        Due.is("a letter", w.letter(1, 0), 1);
+        Due.is("waits", w.waiting(1), 1);
+        w.times(2);
+        Due.is("its order", w.about(1, 7), 0);
+        Due.is("s is 0 without a reading", w.rule(1), 0);
     }
 
     private static void counts() {

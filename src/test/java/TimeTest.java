@@ -138,7 +138,9 @@ public final class TimeTest {
         w.sea(0, 0, 0, 0);
         w.sea(11, 11, 2, 98);
         w.sea(22, 22, 2, 0);
+        w.sea(33, 33, 0, 1);
         w.times(1);
+        Due.is("of one layer", w.cell(3, 3, 0, 2), 51);
         Due.is("land", w.cell(0, 0, 0, 2), 0);
         Due.is("99", w.cell(1, 1, 0, 2), 99);
         Due.is("1", w.cell(2, 2, 0, 2), 1);
@@ -148,6 +150,7 @@ public final class TimeTest {
         Due.is("53", w.cell(9, 7, 0, 2), 53);
         w = Due.ordered(0, 5, 5, 100, "p>0?s0;");
         w.times(1);
+        Due.is("in the corner", w.cell(0, 0, 0, 2), 51);
         w.times(1);
         Due.is("measured, then one more", w.cell(5, 5, 0, 2), 1);
         Due.is("beside: half of 51, one more", w.cell(5, 4, 0, 2), 26);
