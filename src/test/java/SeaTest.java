@@ -91,6 +91,7 @@ public final class SeaTest {
         }
         Due.is("land where one is up", w.sea(49, 47, 0, 0), -3);
         Due.is("land where one is up", w.sea(4, 4, 0, 0), -3);
+        Due.is("land where one is up", w.sea(44, 44, 0, 0), -3);
         Due.same("nothing changed", Due.state(w, true), before);
         Due.is("less depth is fine", w.sea(44, 44, 0, 1), 1);
         Due.is("lane 0 and doubt 0 are fine", w.sea(44, 44, 1, 0) + w.sea(44, 44, 2, 0), 1);

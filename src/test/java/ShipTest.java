@@ -220,7 +220,7 @@ public final class ShipTest {
     private static void usedAgain() {
         DeepWings w = new DeepWings();
         w.glider(0, 1, 1, 50);
-        Due.order(w, "p>0?u;");
+        Due.order(w, "s=0?u;");
         Due.order(w, "p<9?u;");
         w.image();
         w.glider(3, 2, 2, 300);
