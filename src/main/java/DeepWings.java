@@ -1126,7 +1126,8 @@ public final class DeepWings {
                     return at;
                 }
             }
-            return NONE;
+            // An ORDER is RULES: a text without any ends too early, at its size.
+            return into.rules > 0 ? NONE : at;
         }
 
         private boolean takeRule() {

@@ -10,7 +10,7 @@ final class Model {
     private static final String CHECK = "!*[pxylfhtsd][<>=](?:0|[1-9][0-9]{0,2})";
     private static final String ACT = "(?:u|s[0-3]|g[0-9][0-7][0-3])";
     private static final String RULE = CHECK + "(?:&" + CHECK + ")*\\?" + ACT + ";";
-    private static final Pattern ORDER = Pattern.compile("(?:" + RULE + "){0,6}");
+    private static final Pattern ORDER = Pattern.compile("(?:" + RULE + "){1,6}");
 
     static final class Wing {
         int kind, x, y, power, state, foul, order = -4, heard = -4, dives, latest = -4;
@@ -422,8 +422,7 @@ final class Model {
     }
 
     private int ruleNow(Wing w) {
-        String text = all.orders.get(w.order);
-        String[] rules = text.isEmpty() ? new String[0] : text.split(";");
+        String[] rules = all.orders.get(w.order).split(";");
         for (int i = 0; i < rules.length; i++) {
             boolean holds = true;
             for (String c : rules[i].split("\\?")[0].split("&")) {

@@ -188,6 +188,9 @@ public final class ModelTest {
             String wrong = "" + SIGNS.charAt(random.nextInt(SIGNS.length()));
             text = text.substring(0, at) + (random.nextBoolean() ? wrong : "") + text.substring(Math.min(text.length(), at + random.nextInt(2)));
         }
+        if (random.nextInt(8) == 0) {
+            text = text.substring(0, random.nextInt(Math.min(8, text.length()) + 1));
+        }
         text = text.substring(0, Math.min(80, text.length()));
         int d = random.nextInt(8);
         call("row", d, 0, text.length());

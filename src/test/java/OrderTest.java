@@ -4,6 +4,7 @@ public final class OrderTest {
         good();
         faults();
         ruleLimit();
+        noRule();
         faultRefusals();
         orderRefusals();
         orderKeepsItsText();
@@ -31,7 +32,6 @@ public final class OrderTest {
         for (String text : texts) {
             Due.is("fault of " + text, faultOf(text), -4);
         }
-        Due.is("no rule at all: the document names only the most", faultOf(""), -4);
     }
 
     private static void faults() {
@@ -62,6 +62,28 @@ public final class OrderTest {
         Due.is("a seventh rule", faultOf(six + "p<1?u;"), 36);
         Due.is("anything behind the sixth", faultOf(six + "#"), 36);
         Due.is("the sixth isn't whole", faultOf(six.substring(0, 35)), 35);
+    }
+
+    /** A ROW without elements holds no RULE, so the text ends too early. */
+    private static void noRule() {
+        DeepWings w = new DeepWings();
+        w.glider(0, 2, 2, 100);
+        w.row(1, 0, 0);
+        Due.is("fault of no bytes", w.fault(1), 0);
+        Due.is("order of no bytes", w.order(1), -100);
+        Due.is("no order yet", w.count(7), 0);
+        Due.is("no letter can tell it", w.letter(0, 0), -1);
+        Due.is("the next text is the first order", Due.order(w, "p>0?u;"), 0);
+        Due.is("fault of no bytes behind a good text", w.fault(1), 0);
+        Due.is("order of no bytes behind a good text", w.order(1), -100);
+        Due.is("still the one", w.count(7), 1);
+        w.letter(0, 0);
+        w.times(2);
+        Due.is("its rule as it was read", w.rule(0), 0);
+        w.row(1, 1, 0);
+        Due.is("no shorts", w.order(1), -12);
+        w.row(1, 0, 1);
+        Due.is("a byte 0", w.fault(1), 0);
     }
 
     private static void faultRefusals() {
@@ -169,7 +191,6 @@ public final class OrderTest {
         Due.is("& last", ruleOf("p=50&x=3&y=3?u;"), -4);
         Due.is("! binds its check alone", ruleOf("!p=1&x=3?u;"), 0);
         Due.is("! binds its check alone", ruleOf("!p=1&x=4?u;"), -4);
-        Due.is("no rule at all", ruleOf(""), -4);
     }
 
     private static void holds(String what, DeepWings w, String check, boolean is) {
