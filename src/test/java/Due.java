@@ -1,19 +1,25 @@
 /** Compares answers with those that are due, and ends a test with exit code 1 if one differs. */
 final class Due {
+    private static final int MOST_TOLD = 40;
     private static int asked = 0;
     private static int wrong = 0;
+    private static String sentence = "";
 
     private Due() {
     }
 
+    /** The words of the document to which the next answers hold. */
+    static void sentence(String words) {
+        sentence = "\"" + words + "\": ";
+    }
+
     static void is(String what, long got, long want) {
-        asked++;
-        if (got != want) {
-            wrong++;
-            if (wrong <= 40) {
-                System.out.println(what + " answered " + got + ", due is " + want);
-            }
-        }
+        same(what, String.valueOf(got), String.valueOf(want));
+    }
+
+    /** A call by its name; due is a number, or the name of what it throws. */
+    static void call(DeepWings w, Object due, String name, int... args) {
+        same(Call.told(name, args), Call.answer(w, name, args), String.valueOf(due));
     }
 
     static void isTrue(String what, boolean holds) {
@@ -72,7 +78,9 @@ final class Due {
         asked++;
         if (!got.equals(want)) {
             wrong++;
-            System.out.println(what + " answered " + got + ", due is " + want);
+            if (wrong <= MOST_TOLD) {
+                System.out.println(sentence + what + " answered " + got + ", due is " + want);
+            }
         }
     }
 

@@ -1,7 +1,6 @@
-import java.lang.reflect.InvocationTargetException;
 import java.lang.reflect.Method;
+import java.util.Map;
 import java.util.Random;
-import java.util.TreeMap;
 
 /**
  * Random runs of calls, wrong inputs among them, answered by DeepWings and by Model alike; at
@@ -25,8 +24,7 @@ public final class ModelTest {
         {"keep", 6, 0, 7, 0, 1, 0, 7}, {"row", 4, 0, 7, 0, 2, 0, 12}, {"put", 8, 0, 7, 0, 12, -300, 70000},
         {"element", 8, 0, 7, 0, 12}, {"copy", 8, 0, 7, 0, 6, 0, 7, 0, 6, 0, 6}, {"sum", 5, 0, 7}, {"toss", 5, 0, 7}};
 
-    private static final TreeMap<String, Method> OURS = new TreeMap<>();
-    private static final TreeMap<String, Method> MODELS = new TreeMap<>();
+    private static final Map<String, Method> MODELS = Call.methods(Model.class);
 
     private final Random random;
     private final DeepWings wings = new DeepWings();
@@ -40,10 +38,6 @@ public final class ModelTest {
     }
 
     public static void main(String[] args) {
-        for (Object[] row : FACE) {
-            OURS.put((String) row[0], method(DeepWings.class, (String) row[0]));
-            MODELS.put((String) row[0], method(Model.class, (String) row[0]));
-        }
         int runs = args.length > 0 ? Integer.parseInt(args[0]) : RUNS;
         long seed = args.length > 1 ? Long.parseLong(args[1]) : 1;
         for (int i = 0; i < runs && !Due.anyWrong(); i++) {
@@ -52,37 +46,13 @@ public final class ModelTest {
         Due.end();
     }
 
-    private static Method method(Class<?> of, String name) {
-        for (Method m : of.getDeclaredMethods()) {
-            if (m.getName().equals(name)) {
-                m.setAccessible(true);
-                return m;
-            }
-        }
-        throw new IllegalStateException(name);
-    }
-
-    private static String answer(Object target, Method m, int[] args) {
-        Object[] values = new Object[args.length];
-        for (int i = 0; i < args.length; i++) {
-            values[i] = m.getParameterTypes()[i] == boolean.class ? (Object) (args[i] != 0) : (Object) args[i];
-        }
-        try {
-            return m.invoke(target, values).toString();
-        } catch (InvocationTargetException e) {
-            return e.getCause().getClass().getSimpleName();
-        } catch (IllegalAccessException e) {
-            return e.toString();
-        }
-    }
-
     private void call(String name, int... args) {
-        String ours = answer(wings, OURS.get(name), args);
-        String models = answer(model, MODELS.get(name), args);
+        String ours = Call.answer(wings, name, args);
+        String models = Call.answer(model, MODELS.get(name), args);
         calls++;
-        told.append(name).append(java.util.Arrays.toString(args)).append(" = ").append(ours).append('\n');
+        told.append(Call.told(name, args)).append(" = ").append(ours).append('\n');
         if (alike) {
-            Due.same(name + java.util.Arrays.toString(args), ours, models);
+            Due.same(Call.told(name, args), ours, models);
             if (!ours.equals(models)) {
                 alike = false;
                 System.out.println(told);
