@@ -113,19 +113,19 @@ public final class GliderTest {
     }
 
     private static void diveRefusals() {
-        DeepWings w = new DeepWings();
-        w.glider(0, 4, 4, 8);
-        w.glider(3, 4, 4, 3);
-        String before = Due.state(w, true);
+        Scene scene = new Scene(s -> {
+            s.glider(0, 4, 4, 8);
+            s.glider(3, 4, 4, 3);
+        });
         int[][] wrong = {{2, 0, 0, 0}, {-1, 0, 0, 0}, {0, -1, 0, 0}, {0, 3, 0, 0}, {0, 0, 3, 0}, {0, 0, 0, -3},
             {0, 0, 2, 1}, {0, 0, -1, -2}, {0, 0, LEAST, 0}, {0, 0, 0, LEAST}, {0, 0, LEAST, LEAST},
             {0, 0, MOST, MOST}, {0, 0, MOST, LEAST}, {0, MOST, 0, 0}, {0, LEAST, 0, 0}, {LEAST, 0, 0, 0},
             {1, 2, 0, 0}, {1, 0, 3, 2}, {1, 0, 5, 0}, {1, 0, LEAST, 4}};
         for (int[] a : wrong) {
-            Due.is("dive", w.dive(a[0], a[1], a[2], a[3]), -1);
+            scene.refuses(-1, "dive", a);
         }
-        Due.is("no power", w.dive(1, 1, 0, 0), -3);
-        Due.same("nothing changed", Due.state(w, true), before);
+        scene.refuses(-3, "dive", 1, 1, 0, 0);
+        DeepWings w = scene.made();
         Due.is("power just enough", w.dive(0, 2, 0, 0), 36);
         Due.is("power", w.about(0, 3), 0);
         Due.is("no power", w.dive(0, 0, 0, 0), -3);

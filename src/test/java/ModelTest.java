@@ -1,4 +1,6 @@
 import java.lang.reflect.Method;
+import java.util.ArrayList;
+import java.util.List;
 import java.util.Map;
 import java.util.Random;
 
@@ -8,7 +10,10 @@ import java.util.Random;
  */
 public final class ModelTest {
     private static final int RUNS = 400;
+    /** An object is used for at most 512 calls; what is told behind some of them is asked of others like it. */
     private static final int CALLS = 512;
+    private static final int COMPARED_WITHIN = 250;
+    private static final int MOST_OF_A_TEXT = 90;
     private static final String SIGNS = ";?&!pxs0123489<>=ug \u00e9";
 
     /** Name, weight, then least and greatest of each argument in its range. */
@@ -29,9 +34,11 @@ public final class ModelTest {
     private final Random random;
     private final DeepWings wings = new DeepWings();
     private final Model model = new Model();
-    private final StringBuilder told = new StringBuilder();
-    private int calls = 0;
+    private final List<String> names = new ArrayList<>();
+    private final List<int[]> arguments = new ArrayList<>();
     private boolean alike = true;
+    private DeepWings twin = null;
+    private int askedOfTwin = 0;
 
     private ModelTest(long seed) {
         random = new Random(seed);
@@ -47,17 +54,33 @@ public final class ModelTest {
     }
 
     private void call(String name, int... args) {
-        String ours = Call.answer(wings, name, args);
-        String models = Call.answer(model, MODELS.get(name), args);
-        calls++;
-        told.append(Call.told(name, args)).append(" = ").append(ours).append('\n');
+        names.add(name);
+        arguments.add(args);
+        compare(Call.answer(wings, name, args), name, args);
+    }
+
+    private void compare(String ours, String name, int... args) {
         if (alike) {
+            String models = Call.answer(model, MODELS.get(name), args);
             Due.same(Call.told(name, args), ours, models);
-            if (!ours.equals(models)) {
-                alike = false;
-                System.out.println(told);
+            alike = ours.equals(models);
+            for (int i = 0; i < names.size() && !alike; i++) {
+                System.out.println(Call.told(names.get(i), arguments.get(i)));
             }
         }
+    }
+
+    /** Asks an object that has seen the same calls. */
+    private void ask(String name, int... args) {
+        if (twin == null || names.size() + askedOfTwin >= CALLS) {
+            twin = new DeepWings();
+            askedOfTwin = 0;
+            for (int i = 0; i < names.size(); i++) {
+                Call.answer(twin, names.get(i), arguments.get(i));
+            }
+        }
+        askedOfTwin++;
+        compare(Call.answer(twin, name, args), name, args);
     }
 
     private void run() {
@@ -65,17 +88,18 @@ public final class ModelTest {
         for (int i = random.nextInt(5); i >= 0; i--) {
             call("glider", random.nextInt(4), random.nextInt(10), random.nextInt(8), random.nextInt(999));
         }
-        while (calls < CALLS && alike) {
-            if (random.nextInt(30) == 0) {
+        int compareAt = random.nextInt(COMPARED_WITHIN);
+        while (names.size() < CALLS && alike) {
+            if (names.size() >= compareAt) {
+                compareAll();
+                compareAt = CALLS;
+            }
+            if (random.nextInt(30) == 0 && names.size() + MOST_OF_A_TEXT < CALLS) {
                 writeOrder();
             } else {
                 oneCall(style);
             }
-            if (random.nextInt(200) == 0) {
-                compareAll();
-            }
         }
-        compareAll();
     }
 
     private void oneCall(int style) {
@@ -173,47 +197,43 @@ public final class ModelTest {
     }
 
     private void compareAll() {
-        int from = told.length();
+        twin = null;
         for (int c = 0; c < 80; c++) {
             for (int what = 0; what < 3; what++) {
-                call("cell", c / 8, c % 8, 0, what);
+                ask("cell", c / 8, c % 8, 0, what);
             }
             for (int what = 3; what < 9; what++) {
                 for (int layer = 0; layer < 4; layer++) {
-                    call("cell", c / 8, c % 8, layer, what);
+                    ask("cell", c / 8, c % 8, layer, what);
                 }
             }
         }
         for (int what = 0; what <= 10; what++) {
-            call("count", what);
+            ask("count", what);
             for (int g = 0; g < 8; g++) {
-                call("about", g, what);
+                ask("about", g, what);
             }
         }
         for (int g = 0; g < 8; g++) {
-            call("waiting", g);
-            call("rule", g);
-            call("left", g);
-            call("sum", g);
-            call("toss", g);
-            call("fault", g);
+            ask("waiting", g);
+            ask("rule", g);
+            ask("left", g);
+            ask("sum", g);
+            ask("toss", g);
+            ask("fault", g);
             for (int i = 0; i < 81; i++) {
-                call("element", g, i);
+                ask("element", g, i);
             }
             for (int t = 0; t <= 400; t += 7) {
-                call("known", g, t);
+                ask("known", g, t);
             }
         }
         for (int r = 0; r <= 200; r++) {
             for (int what = 0; what < 5; what++) {
-                call("reading", r, what);
+                ask("reading", r, what);
             }
-            call("read", r, 0);
-            call("read", r, 1);
-        }
-        if (alike) {
-            told.setLength(from);
-            calls -= 80 * 27 + 11 * 9 + 8 * (6 + 81 + 58) + 201 * 7;
+            ask("read", r, 0);
+            ask("read", r, 1);
         }
     }
 }

@@ -15,9 +15,8 @@ public final class PlanTest {
         powerAndSinks();
         farthestHeadings();
         gainRoundsUp();
-        Random random = new Random(20261118);
         for (int i = 0; i < 150; i++) {
-            againstAllHeadings(random);
+            againstAllHeadings(20261118 + i);
         }
         Due.end();
     }
@@ -36,10 +35,9 @@ public final class PlanTest {
         Due.is("planned", w.planned(0, 1), -1);
         Due.is("planned", w.planned(0, -1), -1);
         Due.is("planned", w.planned(0, MOST), -1);
-        String before = Due.state(w, true);
-        Due.is("plan", w.plan(3), 150);
-        Due.is("planned", w.planned(3, 0), code(1, 1));
-        Due.same("it only tells", Due.state(w, true), before);
+        Scene scene = new Scene(s -> s.glider(0, 0, 0, 50));
+        scene.onlyTells(150, "plan", 3);
+        scene.onlyTells(code(1, 1), "planned", 3, 0);
     }
 
     private static void endsByTheMap() {
@@ -172,8 +170,24 @@ public final class PlanTest {
     }
 
     /** A random sea, gliders in it, and the best of all HEADINGS, told by ends and cell alone. */
-    private static void againstAllHeadings(Random random) {
-        DeepWings w = new DeepWings();
+    private static void againstAllHeadings(long seed) {
+        Scene scene = new Scene(w -> fill(w, new Random(seed)));
+        for (int layer = 0; layer < 4; layer++) {
+            DeepWings w = scene.made();
+            int[] team = team(w, layer);
+            int[] best = best(scene, layer, team);
+            Due.is("plan " + layer, w.plan(layer), best[0]);
+            for (int g = 0; g < w.count(0); g++) {
+                int due = -4;
+                for (int k = 0; k < team.length && best[0] >= 0; k++) {
+                    due = team[k] == g ? best[k + 1] : due;
+                }
+                Due.is("planned " + layer + " " + g, w.planned(layer, g), due);
+            }
+        }
+    }
+
+    private static void fill(DeepWings w, Random random) {
         int style = random.nextInt(4);
         for (int i = 0; i < 60; i++) {
             int x = random.nextInt(10);
@@ -192,18 +206,6 @@ public final class PlanTest {
             int y = Math.floorMod(gy + random.nextInt(3) - 1, 8);
             w.glider(random.nextInt(4), x, y, random.nextInt(8) == 0 ? random.nextInt(9) : 50);
         }
-        for (int layer = 0; layer < 4; layer++) {
-            int[] team = team(w, layer);
-            int[] best = best(w, layer, team);
-            Due.is("plan " + layer, w.plan(layer), best[0]);
-            for (int g = 0; g < w.count(0); g++) {
-                int due = -4;
-                for (int k = 0; k < team.length && best[0] >= 0; k++) {
-                    due = team[k] == g ? best[k + 1] : due;
-                }
-                Due.is("planned " + layer + " " + g, w.planned(layer, g), due);
-            }
-        }
     }
 
     private static int depthOf(DeepWings w, int g, int layer) {
@@ -221,13 +223,14 @@ public final class PlanTest {
         return java.util.Arrays.copyOf(found, n);
     }
 
-    private static int[] best(DeepWings w, int layer, int[] team) {
+    private static int[] best(Scene scene, int layer, int[] team) {
         int[] best = {-4, 0, 0, 0};
         int[][] options = new int[3][];
         for (int k = 0; k < 3; k++) {
-            options[k] = k < team.length ? optionsOf(w, team[k], layer) : new int[] {0, -1 - k};
+            options[k] = k < team.length ? optionsOf(scene.made(), team[k], layer) : new int[] {0, -1 - k};
         }
         int[] doubt = new int[80];
+        DeepWings w = scene.made();
         for (int c = 0; c < 80; c++) {
             doubt[c] = w.cell(c / 8, c % 8, 0, 2);
         }
@@ -250,11 +253,12 @@ public final class PlanTest {
 
     private static int[] optionsOf(DeepWings w, int g, int layer) {
         int goes = w.can(g, 1);
+        int depth = depthOf(w, g, layer);
         int[] found = new int[200];
         int n = 0;
         for (int east = -goes; east <= goes; east++) {
             for (int north = -goes; north <= goes; north++) {
-                int end = w.ends(g, depthOf(w, g, layer), east, north);
+                int end = w.ends(g, depth, east, north);
                 if (end >= 0) {
                     found[n++] = code(east, north);
                     found[n++] = end;

@@ -14,7 +14,7 @@ final class Scene {
         long of(DeepWings w);
     }
 
-    private static final int AT_ONCE = 250;
+    private static final int AT_ONCE = 200;
     private static final List<Ask> STATE = stateQuestions();
 
     static final Scene NEW = new Scene(w -> { });
@@ -43,6 +43,11 @@ final class Scene {
 
     /** A call is refused as is due (a number, or what it throws), and all else stays as it was. */
     void refuses(Object due, String name, int... args) {
+        onlyTells(due, name, args);
+    }
+
+    /** A call answers as is due, and all else stays as it was. */
+    void onlyTells(Object due, String name, int... args) {
         Due.call(made(), due, name, args);
         Scene behind = then(w -> Call.answer(w, name, args));
         Due.isTrue(Call.told(name, args) + " changes nothing", behind.told().equals(told()));
@@ -129,9 +134,10 @@ final class Scene {
     /** What LETTERS and ORDERS hold shows only when they are heard and done. */
     private void tellFuture(StringBuilder all) {
         DeepWings w = made();
+        int gliders = w.count(0);
         for (int round = 0; round < 5; round++) {
             all.append(w.times(round < 4 ? 1 : 40)).append(' ').append(w.count(5)).append(' ').append(w.next());
-            for (int g = 0; g < w.count(0); g++) {
+            for (int g = 0; g < gliders; g++) {
                 all.append(' ').append(w.about(g, 7)).append(' ').append(w.waiting(g)).append(' ')
                     .append(w.about(g, 3)).append(' ').append(w.about(g, 1)).append(' ').append(w.about(g, 2));
             }

@@ -163,12 +163,12 @@ public final class SeaBoundsTest {
     private static void eachPlaceItsOwn() {
         Due.sentence("Each CELL and LAYER has a STREAM, east and north (-2 .. 2 each; 0 at first), THE MAP's of it (likewise), SALT (0 .. 999; 0 at first), and may have a NET.");
         for (int place = 0; place < 320; place++) {
-            DeepWings w = new DeepWings();
-            w.stream(place / 32, place / 4 % 8, place % 4, 1, 1, false);
-            w.stream(place / 32, place / 4 % 8, place % 4, 1, 1, true);
-            w.salt(place / 32, place / 4 % 8, place % 4, 1);
-            w.salt(place / 32, place / 4 % 8, place % 4, 1000);
             for (int what = 3; what <= 8; what++) {
+                DeepWings w = new DeepWings();
+                w.stream(place / 32, place / 4 % 8, place % 4, 1, 1, false);
+                w.stream(place / 32, place / 4 % 8, place % 4, 1, 1, true);
+                w.salt(place / 32, place / 4 % 8, place % 4, 1);
+                w.salt(place / 32, place / 4 % 8, place % 4, 1000);
                 int found = 0;
                 for (int other = 0; other < 320; other++) {
                     found += w.cell(other / 32, other / 4 % 8, other % 4, what);

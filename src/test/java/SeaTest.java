@@ -17,6 +17,7 @@ public final class SeaTest {
     private static void newObject() {
         DeepWings w = new DeepWings();
         for (int x = 0; x < 10; x++) {
+            w = new DeepWings();
             for (int y = 0; y < 8; y++) {
                 Due.is("new depth", w.cell(x, y, 0, 0), 4);
                 Due.is("new lane", w.cell(x, y, 0, 1), 0);
@@ -28,6 +29,7 @@ public final class SeaTest {
                 }
             }
         }
+        w = new DeepWings();
         int[] counts = {0, 0, 0, 0, 0, 0, 0, 0, 4000, 0, 0};
         for (int what = 0; what < counts.length; what++) {
             Due.is("new count " + what, w.count(what), counts[what]);
@@ -77,9 +79,7 @@ public final class SeaTest {
     }
 
     private static void seaRefusals() {
-        DeepWings w = new DeepWings();
-        w.glider(0, 4, 4, 99);
-        String before = Due.state(w, true);
+        Scene scene = new Scene(s -> s.glider(0, 4, 4, 99));
         int[][] wrong = {
             {-1, 0, 0, 1}, {100, 0, 0, 1}, {10, 0, 0, 1}, {98, 0, 0, 1}, {0, 8, 0, 1}, {0, 88, 0, 1},
             {0, 10, 0, 1}, {0, -1, 0, 1}, {0, 100, 0, 1}, {0, 78, 0, 1}, {0, 0, 3, 1}, {0, 0, -1, 1},
@@ -87,12 +87,12 @@ public final class SeaTest {
             {LEAST, 0, 0, 1}, {MOST, 0, 0, 1}, {0, LEAST, 0, 1}, {0, MOST, 0, 1}, {0, 0, LEAST, 1},
             {0, 0, MOST, 1}, {0, 0, 0, LEAST}, {0, 0, 2, MOST}, {0, 8, 0, 0}};
         for (int[] a : wrong) {
-            Due.is("sea " + a[0] + " " + a[1] + " " + a[2] + " " + a[3], w.sea(a[0], a[1], a[2], a[3]), -1);
+            scene.refuses(-1, "sea", a);
         }
-        Due.is("land where one is up", w.sea(49, 47, 0, 0), -3);
-        Due.is("land where one is up", w.sea(4, 4, 0, 0), -3);
-        Due.is("land where one is up", w.sea(44, 44, 0, 0), -3);
-        Due.same("nothing changed", Due.state(w, true), before);
+        scene.refuses(-3, "sea", 49, 47, 0, 0);
+        scene.refuses(-3, "sea", 4, 4, 0, 0);
+        scene.refuses(-3, "sea", 44, 44, 0, 0);
+        DeepWings w = scene.made();
         Due.is("less depth is fine", w.sea(44, 44, 0, 1), 1);
         Due.is("lane 0 and doubt 0 are fine", w.sea(44, 44, 1, 0) + w.sea(44, 44, 2, 0), 1);
         Due.is("beside it", w.sea(33, 44, 0, 0) + w.sea(55, 44, 0, 0), 2);
@@ -115,16 +115,15 @@ public final class SeaTest {
         Due.is("map north", w.cell(3, 4, 1, 6), 1);
         Due.is("other layer", w.cell(3, 4, 0, 3), 0);
         Due.is("other cell", w.cell(4, 3, 1, 3), 0);
-        String before = Due.state(w, true);
+        Scene scene = new Scene(x -> x.stream(3, 4, 1, 2, -2, false));
         int[][] wrong = {
             {-1, 0, 0, 0, 0}, {10, 0, 0, 0, 0}, {0, -1, 0, 0, 0}, {0, 8, 0, 0, 0}, {0, 0, -1, 0, 0},
             {0, 0, 4, 0, 0}, {3, 4, 1, 3, 0}, {3, 4, 1, -3, 0}, {3, 4, 1, 0, 3}, {3, 4, 1, 0, -3},
             {LEAST, 0, 0, 0, 0}, {0, MOST, 0, 0, 0}, {0, 0, MOST, 0, 0}, {3, 4, 1, LEAST, 0}, {3, 4, 1, 0, MOST}};
         for (int[] a : wrong) {
-            Due.is("stream", w.stream(a[0], a[1], a[2], a[3], a[4], false), -1);
-            Due.is("stream of the map", w.stream(a[0], a[1], a[2], a[3], a[4], true), -1);
+            scene.refuses(-1, "stream", a[0], a[1], a[2], a[3], a[4], 0);
+            scene.refuses(-1, "stream", a[0], a[1], a[2], a[3], a[4], 1);
         }
-        Due.same("nothing changed", Due.state(w, true), before);
         w.sea(0, 0, 0, 0);
         Due.is("every layer has one", w.stream(0, 0, 3, 1, 1, false), 0);
     }
@@ -144,14 +143,13 @@ public final class SeaTest {
         Due.is("no net", w.salt(9, 7, 2, 1001), 0);
         Due.is("net gone", w.salt(9, 7, 3, 1001), 1);
         Due.is("net gone", w.cell(9, 7, 3, 8), 0);
-        String before = Due.state(w, true);
+        Scene scene = new Scene(x -> x.salt(0, 0, 0, 7));
         int[][] wrong = {
             {-1, 0, 0, 5}, {10, 0, 0, 5}, {0, -1, 0, 5}, {0, 8, 0, 5}, {0, 0, -1, 5}, {0, 0, 4, 5},
             {0, 0, 0, -1}, {0, 0, 0, 1002}, {0, 0, 0, LEAST}, {0, 0, 0, MOST}, {LEAST, MOST, 0, 5}};
         for (int[] a : wrong) {
-            Due.is("salt", w.salt(a[0], a[1], a[2], a[3]), -1);
+            scene.refuses(-1, "salt", a);
         }
-        Due.same("nothing changed", Due.state(w, true), before);
     }
 
     private static void cells() {

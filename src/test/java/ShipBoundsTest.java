@@ -215,7 +215,7 @@ public final class ShipBoundsTest {
         Due.order(w, "x=9?s0;");
         w.letter(0, w.count(7) - 1);
         w.letter(1, 0);
-        for (int t = 0; t <= 400; t += 5) {
+        for (int t = 0; t <= 400; t += 25) {
             w.deaf(t, true);
         }
         w.times(3);

@@ -117,8 +117,9 @@ public final class ShipTest {
         Due.is("restore", w.restore(), 9);
     }
 
-    private static DeepWings rich() {
-        DeepWings w = new DeepWings();
+    private static final Scene RICH = new Scene(ShipTest::fill);
+
+    private static void fill(DeepWings w) {
         w.sea(88, 77, 0, 0);
         w.sea(22, 22, 1, 1);
         w.stream(3, 3, 1, 1, 1, false);
@@ -139,17 +140,22 @@ public final class ShipTest {
         w.times(2);
         w.letter(1, 0);
         w.keep(0, 1, 0);
-        return w;
     }
 
     private static void imageIsWhole() {
-        DeepWings w = rich();
-        String then = Due.state(w, false);
+        Scene changed = RICH.then(ShipTest::imageAndChanges);
+        Due.isTrue("it changes", !changed.toldOfSea().equals(RICH.toldOfSea()));
+        Due.isTrue("all as it was then", changed.then(w -> w.restore()).toldOfSea().equals(RICH.toldOfSea()));
+        behindTheImage(changed.made());
+        goesOnAlike();
+    }
+
+    private static void imageAndChanges(DeepWings w) {
         Due.is("image", w.image(), 2);
         w.sea(9, 0, 0, 2);
         w.sea(9, 7, 1, 1);
         w.sea(9, 7, 2, 9);
-        for (int i = 0; i < 320; i++) {
+        for (int i = 0; i < 320; i += 7) {
             w.stream(i / 32, i / 4 % 8, i % 4, -1, 1, i % 2 == 0);
             w.stream(i / 32, i / 4 % 8, i % 4, 1, -1, i % 2 == 1);
             w.salt(i / 32, i / 4 % 8, i % 4, 9);
@@ -169,8 +175,10 @@ public final class ShipTest {
         w.ship(0, 0);
         w.keep(1, 1, 2);
         w.row(2, 0, 4);
+    }
+
+    private static void behindTheImage(DeepWings w) {
         Due.is("restore", w.restore(), 2);
-        Due.same("all as it was then", Due.state(w, false), then);
         Due.is("the ship", w.ship(2, 2), 18);
         Due.is("shelves stay", w.sum(1), 140);
         Due.is("shelves stay", w.fault(2), 0);
@@ -180,19 +188,18 @@ public final class ShipTest {
         Due.is("a new order 1", Due.order(w, "p>0?s0;"), 1);
         Due.is("a new glider 2", w.glider(1, 5, 5, 77), 2);
         Due.is("with nothing of the old one", w.about(2, 0) + w.about(2, 9) + w.about(2, 3), 78);
-        goesOnAlike();
     }
 
     /** What follows a RESTORE is what would have followed then. */
     private static void goesOnAlike() {
-        DeepWings straight = rich();
-        straight.times(10);
-        DeepWings w = rich();
-        w.image();
-        w.times(20);
-        w.restore();
-        w.times(10);
-        Due.same("goes on alike", Due.state(w, false), Due.state(straight, false));
+        Scene straight = RICH.then(w -> w.times(10));
+        Scene again = RICH.then(w -> {
+            w.image();
+            w.times(20);
+            w.restore();
+            w.times(10);
+        });
+        Due.isTrue("goes on alike", again.toldOfSea().equals(straight.toldOfSea()));
     }
 
     private static void imageTwice() {
